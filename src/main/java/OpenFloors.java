@@ -48,7 +48,7 @@ public final class OpenFloors {
     private long discomfort = 0;
     private long cleaning = 0;
 
-    /** A floor with its rooms' warmth and air. */
+    /** A floor with its warmth and air. */
     private static final class Floor {
         private final int number;
         private final int seats;
@@ -673,7 +673,8 @@ public final class OpenFloors {
     private boolean peopleAreSound() {
         for (int i = 0; i < people.size(); i++) {
             Person who = people.get(i);
-            boolean sound = who.seat == null ? !who.in : who.seat.open;
+            Floor seat = who.seat;
+            boolean sound = seat == null ? !who.in : seat.open;
             if (!sound) {
                 return false;
             }

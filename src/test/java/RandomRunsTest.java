@@ -84,7 +84,9 @@ public final class RandomRunsTest {
         try {
             return call.invoke(target, arguments);
         } catch (InvocationTargetException e) {
-            return "throws." + e.getCause().getClass().getSimpleName();
+            Throwable thrown = e.getCause();
+            boolean own = target instanceof Model || Check.isThrownByTheClass(thrown);
+            return (own ? "throws." : "lets the machine throw ") + thrown.getClass().getSimpleName();
         } catch (IllegalAccessException e) {
             throw new IllegalStateException(e);
         }
