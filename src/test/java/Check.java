@@ -19,27 +19,12 @@ final class Check {
         }
     }
 
-    /** The call throws just this exception, and nothing has changed behind it. */
-    void refused(String call, OpenFloors building, Class<? extends RuntimeException> want, Runnable body) {
-        String before = Snapshot.of(building);
-        Class<?> got = null;
-        boolean own = false;
-        try {
-            body.run();
-        } catch (RuntimeException e) {
-            got = e.getClass();
-            own = isThrownByTheClass(e);
-        }
-        due(call + " throws", got, want);
-        due(call + " throws by the class's own word", own, true);
-        due("the state behind " + call, Snapshot.of(building), before);
-    }
-
-    /** Neither the library nor a division of the machine has thrown it: those would look alike to a caller. */
-    static boolean isThrownByTheClass(Throwable e) {
+    /** What the machine or the library throws looks alike to a caller, but is no answer of the class's own. */
+    static String nameOfThrown(Throwable e) {
         StackTraceElement[] calls = e.getStackTrace();
-        boolean inTheClass = calls.length > 0 && calls[0].getClassName().equals("OpenFloors");
-        return inTheClass && !"/ by zero".equals(e.getMessage());
+        boolean inTheClass = calls.length > 0 && calls[0].getClassName().matches("OpenFloors(\\$.*)?");
+        boolean own = inTheClass && !"/ by zero".equals(e.getMessage());
+        return (own ? "throws." : "lets the machine throw ") + e.getClass().getSimpleName();
     }
 
     void close() {

@@ -9,22 +9,20 @@ import java.util.TreeSet;
 import java.util.regex.Matcher;
 import java.util.regex.Pattern;
 
-/** The face of the document, and the rules of the language that a text or a reflection can tell. */
+/** The face of the document, and that nothing else is open. */
 public final class FaceTest {
     private static final Check CHECK = new Check("FaceTest");
-    private static final Path SOURCE = Path.of("src/main/java/OpenFloors.java");
-    private static final Path DOCUMENT = Path.of("../shared/DOC.md");
+    static final Path SOURCE = Path.of("src/main/java/OpenFloors.java");
 
     public static void main(String[] args) throws IOException {
         theFaceIsTheDocuments();
         nothingElseIsOpen();
-        theTextKeepsToTheLanguage();
         CHECK.close();
     }
 
     private static void theFaceIsTheDocuments() throws IOException {
         TreeSet<String> wanted = new TreeSet<>();
-        String text = Files.readString(DOCUMENT, StandardCharsets.UTF_8);
+        String text = Files.readString(Document.PATH, StandardCharsets.UTF_8);
         String face = text.substring(text.indexOf("```java"), text.lastIndexOf("```"));
         Matcher line = Pattern.compile("public (int|long|double|float|boolean) (\\w+)\\(([^)]*)\\)( throws [^;]+)?;")
                 .matcher(face);
@@ -80,21 +78,5 @@ public final class FaceTest {
         for (Class<?> inside : OpenFloors.class.getDeclaredClasses()) {
             CHECK.due("static: " + inside.getName(), Modifier.isStatic(inside.getModifiers()), true);
         }
-    }
-
-    private static void theTextKeepsToTheLanguage() throws IOException {
-        String text = Files.readString(SOURCE, StandardCharsets.UTF_8);
-        CHECK.due("signs of ASCII alone", text.chars().allMatch(c -> c < 128), true);
-        String[] ruledOut = {"->", "::", "\\bcatch\\b", "\\btry\\b", "\\bfinally\\b", "\\bsynchronized\\b", "\\bassert\\b",
-            "static \\{", "\\bpackage\\b", "\\bSystem\\b", "\\bprotected\\b", "\\bThread\\b", "\\bRandom\\b"};
-        for (String word : ruledOut) {
-            CHECK.due("no " + word, Pattern.compile(word).matcher(text).find(), false);
-        }
-        Matcher imports = Pattern.compile("(?m)^import (.*);$").matcher(text);
-        TreeSet<String> imported = new TreeSet<>();
-        while (imports.find()) {
-            imported.add(imports.group(1));
-        }
-        CHECK.due("imports", imported.toString(), "[java.util.ArrayList, java.util.NoSuchElementException]");
     }
 }

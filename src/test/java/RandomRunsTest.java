@@ -85,8 +85,7 @@ public final class RandomRunsTest {
             return call.invoke(target, arguments);
         } catch (InvocationTargetException e) {
             Throwable thrown = e.getCause();
-            boolean own = target instanceof Model || Check.isThrownByTheClass(thrown);
-            return (own ? "throws." : "lets the machine throw ") + thrown.getClass().getSimpleName();
+            return target instanceof Model ? "throws." + thrown.getClass().getSimpleName() : Check.nameOfThrown(thrown);
         } catch (IllegalAccessException e) {
             throw new IllegalStateException(e);
         }
