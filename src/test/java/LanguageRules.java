@@ -1,12 +1,15 @@
 import com.sun.source.tree.AssertTree;
 import com.sun.source.tree.BinaryTree;
 import com.sun.source.tree.BlockTree;
+import com.sun.source.tree.BreakTree;
 import com.sun.source.tree.CatchTree;
 import com.sun.source.tree.ClassTree;
 import com.sun.source.tree.CompilationUnitTree;
 import com.sun.source.tree.CompoundAssignmentTree;
+import com.sun.source.tree.DoWhileLoopTree;
 import com.sun.source.tree.ExpressionTree;
 import com.sun.source.tree.ForLoopTree;
+import com.sun.source.tree.IdentifierTree;
 import com.sun.source.tree.ImportTree;
 import com.sun.source.tree.LambdaExpressionTree;
 import com.sun.source.tree.LiteralTree;
@@ -14,12 +17,15 @@ import com.sun.source.tree.MemberReferenceTree;
 import com.sun.source.tree.MethodInvocationTree;
 import com.sun.source.tree.MethodTree;
 import com.sun.source.tree.NewClassTree;
+import com.sun.source.tree.ReturnTree;
 import com.sun.source.tree.SynchronizedTree;
 import com.sun.source.tree.ThrowTree;
 import com.sun.source.tree.Tree;
 import com.sun.source.tree.TryTree;
 import com.sun.source.tree.VariableTree;
+import com.sun.source.tree.WhileLoopTree;
 import com.sun.source.util.TreePathScanner;
+import com.sun.source.util.TreeScanner;
 import com.sun.source.util.Trees;
 import java.util.ArrayList;
 import java.util.LinkedHashMap;
@@ -33,34 +39,44 @@ import javax.lang.model.element.Element;
 import javax.lang.model.element.ElementKind;
 import javax.lang.model.element.ExecutableElement;
 import javax.lang.model.element.Modifier;
-import javax.lang.model.element.TypeElement;
+import javax.lang.model.type.TypeMirror;
 
-/** What a compiler's tree tells of the rules of ../shared/LANGUAGE.md: whatever breaks one, behind its number. */
+/**
+ * What a compiler's tree tells of the rules of ../shared/LANGUAGE.md: whatever breaks one, behind its number. It asks
+ * no more than the rules do: what they allow passes, though the class may not need it.
+ */
 final class LanguageRules extends TreePathScanner<Void, Void> {
-    private static final int MOST_CLASSES = 12;
-    private static final int MOST_FIELDS = 20;
+    // Where a rule says "some", a few more are no breach.
+    private static final int MOST_CLASSES = 12 + 3;
+    private static final int MOST_FIELDS = 20 + 5;
+    private static final int MOST_LINES = 60 + 15;
     private static final int MOST_PARAMETERS = 7;
-    private static final int MOST_LINES = 60;
-    private static final int DEEPEST_CALLS = 8;
-    private static final String NUMBER = "int|long|short|byte|char|boolean|double|float";
-    private static final Set<String> IMPORTS = Set.of("java.util.ArrayList", "java.util.List", "java.util.Iterator",
-            "java.util.Arrays", "java.util.NoSuchElementException");
-    private static final Set<String> EXCEPTIONS = Set.of("IllegalStateException", "IllegalArgumentException",
-            "IndexOutOfBoundsException", "ArithmeticException", "UnsupportedOperationException",
-            "NoSuchElementException", "RuntimeException");
+    // A call of the face, and eight below it.
+    private static final int DEEPEST_CALLS = 1 + 8;
+    private static final Set<ElementKind> LOCALS = Set.of(
+            ElementKind.LOCAL_VARIABLE, ElementKind.PARAMETER, ElementKind.BINDING_VARIABLE);
+    private static final Pattern IMPORT = Pattern.compile(
+            "java\\.util\\.(\\*|ArrayList|List|Iterator|Arrays|NoSuchElementException)");
+    private static final String EXCEPTION = "(java\\.(lang|util)\\.)?(IllegalState|IllegalArgument|IndexOutOfBounds"
+            + "|Arithmetic|UnsupportedOperation|NoSuchElement|Runtime)(Exception)";
     private static final Pattern LIBRARY = Pattern.compile("java\\.util\\.(ArrayList|List)\\.("
-            + "add|get|set|size|isEmpty|clear|remove\\(int\\)|of)"
+            + "add|get|set|size|isEmpty|clear|remove\\(int\\)|of|iterator)"
             + "|java\\.lang\\.String\\.(length|charAt|isEmpty|equals|indexOf\\(int\\)|substring|toCharArray)"
-            + "|java\\.lang\\.StringBuilder\\.(append|charAt|setCharAt|setLength|deleteCharAt|reverse|length|toString)"
-            + "|java\\.lang\\.(Math|Integer|Long)\\.(?!\\w*Exact)\\w+"
-            + "|java\\.util\\.Arrays\\.(copyOf|copyOfRange|fill)|java\\.lang\\.System\\.arraycopy");
-    private static final Pattern MADE = Pattern.compile("java\\.util\\.ArrayList|java\\.lang\\.(String|StringBuilder)");
+            + "|java\\.lang\\.(Abstract)?StringBuilder\\."
+            + "(append|charAt|setCharAt|setLength|deleteCharAt|reverse|length|toString)"
+            + "|java\\.lang\\.(Math|Integer|Long)\\.(?!\\w*Exact)\\w+|java\\.lang\\.System\\.arraycopy|Array\\.clone"
+            + "|java\\.util\\.Arrays\\.(copyOf|copyOfRange|fill)"
+            + "|java\\.util\\.Iterator\\.\\w+|java\\.lang\\.Iterable\\.iterator|java\\.lang\\.Comparable\\.compareTo");
+    private static final Pattern MADE = Pattern.compile(
+            "java\\.util\\.ArrayList|java\\.lang\\.(String|StringBuilder)|" + EXCEPTION);
 
     private final Trees trees;
     private final CompilationUnitTree unit;
     private final Map<Integer, List<String>> found = new TreeMap<>();
     private final Map<Element, Set<Element>> calls = new LinkedHashMap<>();
-    private final Set<String> ownClasses = new LinkedHashSet<>();
+    private final Set<Element> throwing = new LinkedHashSet<>();
+    private final Set<Element> trying = new LinkedHashSet<>();
+    private int classes = 0;
     private Element method = null;
 
     LanguageRules(Trees trees, CompilationUnitTree unit) {
@@ -70,18 +86,13 @@ final class LanguageRules extends TreePathScanner<Void, Void> {
 
     /** By the rules' numbers; empty if all is well. */
     Map<Integer, List<String>> check() {
-        new TreePathScanner<Void, Void>() {
-            @Override
-            public Void visitClass(ClassTree tree, Void unused) {
-                ownClasses.add(tree.getSimpleName().toString());
-                return super.visitClass(tree, unused);
-            }
-        }.scan(unit, null);
-        expect(ownClasses.size() <= MOST_CLASSES, 11, unit, "classes: " + ownClasses.size());
         scan(unit, null);
+        expect(classes <= MOST_CLASSES, 11, unit, "classes: " + classes);
         for (Element caller : calls.keySet()) {
             checkDepth(caller, new ArrayList<>());
         }
+        throwing.retainAll(trying);
+        expect(throwing.isEmpty(), 6, unit, "throw and try in one method: " + throwing);
         return found;
     }
 
@@ -92,16 +103,14 @@ final class LanguageRules extends TreePathScanner<Void, Void> {
         }
     }
 
-    /** Rule 8 would let a method call itself under a guard; this class needs none that does. */
+    /** A call that comes back to itself is recursion: rule 8 asks it for a guard, which is for the reader. */
     private void checkDepth(Element caller, List<Element> open) {
         if (open.contains(caller)) {
-            found.computeIfAbsent(8, unused -> new ArrayList<>()).add("a call of itself: " + open);
             return;
         }
         open.add(caller);
-        if (open.size() > DEEPEST_CALLS) {
-            found.computeIfAbsent(11, unused -> new ArrayList<>()).add("calls too deep: " + open);
-        } else {
+        expect(open.size() <= DEEPEST_CALLS, 11, unit, "calls too deep: " + open);
+        if (open.size() <= DEEPEST_CALLS) {
             for (Element called : calls.getOrDefault(caller, Set.of())) {
                 checkDepth(called, open);
             }
@@ -113,20 +122,29 @@ final class LanguageRules extends TreePathScanner<Void, Void> {
         return trees.getElement(getCurrentPath());
     }
 
-    private boolean isText(Tree part) {
-        return "java.lang.String".equals(String.valueOf(trees.getTypeMirror(trees.getPath(unit, part))));
+    private TypeMirror typeOf(Tree part) {
+        return trees.getTypeMirror(trees.getPath(unit, part));
+    }
+
+    private static boolean isOwn(Element part) {
+        Element outermost = part;
+        while (outermost.getEnclosingElement() != null
+                && outermost.getEnclosingElement().getKind() != ElementKind.PACKAGE) {
+            outermost = outermost.getEnclosingElement();
+        }
+        return outermost.getSimpleName().contentEquals("OpenFloors");
     }
 
     @Override
     public Void visitImport(ImportTree tree, Void unused) {
-        expect(IMPORTS.contains(tree.getQualifiedIdentifier().toString()), 4, tree, tree.toString().strip());
+        String imported = tree.getQualifiedIdentifier().toString();
+        expect(IMPORT.matcher(imported).matches(), 4, tree, "an import of " + imported);
         return super.visitImport(tree, unused);
     }
 
     @Override
     public Void visitClass(ClassTree tree, Void unused) {
-        boolean isLocal = getCurrentPath().getParentPath().getLeaf().getKind() == Tree.Kind.BLOCK;
-        expect(!isLocal, 2, tree, "a local class " + tree.getSimpleName());
+        classes++;
         long fields = tree.getMembers().stream().filter(member -> member instanceof VariableTree)
                 .filter(member -> !((VariableTree) member).getModifiers().getFlags().contains(Modifier.STATIC)).count();
         expect(fields <= MOST_FIELDS, 11, tree, "fields of " + tree.getSimpleName() + ": " + fields);
@@ -158,24 +176,41 @@ final class LanguageRules extends TreePathScanner<Void, Void> {
         expect(tree.getParameters().size() <= MOST_PARAMETERS, 11, tree, "parameters of " + name);
         expect(!name.matches("equals|hashCode|toString"), 6, tree, "an own " + name);
         if (tree.getReturnType() != null) {
-            checkType(tree.getReturnType());
+            TypeMirror type = typeOf(tree.getReturnType());
+            expect(LanguageTypes.isAllowed(type), 3, tree, "the type " + type);
         }
     }
 
     @Override
     public Void visitVariable(VariableTree tree, Void unused) {
-        checkType(tree.getType());
+        TypeMirror type = typeOf(tree);
+        expect(LanguageTypes.isAllowed(type), 3, tree, "the type " + type + " of " + tree.getName());
         Set<Modifier> flags = tree.getModifiers().getFlags();
-        boolean isStaticState = flags.contains(Modifier.STATIC) && !flags.contains(Modifier.FINAL);
-        expect(!isStaticState, 5, tree, "a static field that is not final: " + tree.getName());
+        if (flags.contains(Modifier.STATIC)) {
+            expect(flags.contains(Modifier.FINAL), 5, tree, "a static field that is not final: " + tree.getName());
+            expect(LanguageTypes.isAllowedStatic(type), 5, tree, "a static field of the type " + type);
+        }
         return super.visitVariable(tree, unused);
     }
 
-    private void checkType(Tree type) {
-        String own = String.join("|", ownClasses);
-        boolean isAllowed = type.toString().matches("void|(" + NUMBER + ")(\\[]){0,2}|String|StringBuilder|Integer|("
-                + own + ")(\\[])?|(ArrayList|List|Iterator|Iterable)<(" + own + "|Integer)>");
-        expect(isAllowed, 3, type, "the type " + type);
+    @Override
+    public Void visitIdentifier(IdentifierTree tree, Void unused) {
+        Element named = here();
+        if (named != null) {
+            boolean isLocal = LOCALS.contains(named.getKind());
+            boolean isCaptured = isLocal && method != null && named.getEnclosingElement() != method;
+            expect(!isCaptured, 2, tree, "a local class captures " + tree);
+            expect(named.getKind() != ElementKind.EXCEPTION_PARAMETER, 6, tree, "a catch looks at " + tree);
+        }
+        return super.visitIdentifier(tree, unused);
+    }
+
+    @Override
+    public Void visitLiteral(LiteralTree tree, Void unused) {
+        boolean isText = tree.getValue() instanceof String || tree.getValue() instanceof Character;
+        boolean isPlain = !isText || String.valueOf(tree.getValue()).chars().allMatch(sign -> sign > 0 && sign < 128);
+        expect(isPlain, 4, tree, "a sign beyond 1 to 127 in " + tree);
+        return super.visitLiteral(tree, unused);
     }
 
     @Override
@@ -188,29 +223,27 @@ final class LanguageRules extends TreePathScanner<Void, Void> {
     }
 
     private void checkCall(ExecutableElement called, Tree where) {
-        String name = ((TypeElement) called.getEnclosingElement()).getQualifiedName() + "." + called.getSimpleName();
-        String withTypes = name + called.getParameters().stream().map(p -> p.asType().toString()).toList().toString()
-                .replace('[', '(').replace(']', ')');
-        boolean isOwn = name.startsWith("OpenFloors");
-        if (isOwn && method != null) {
-            calls.computeIfAbsent(method, caller -> new LinkedHashSet<>()).add(called);
-        }
+        rememberCall(called);
+        String name = called.getEnclosingElement() + "." + called.getSimpleName();
+        String withTypes = called.getEnclosingElement() + "." + called;
         boolean isAllowed = LIBRARY.matcher(name).matches() || LIBRARY.matcher(withTypes).matches();
-        expect(isOwn || isAllowed, 4, where, "a call of " + withTypes);
+        expect(isOwn(called) || isAllowed, 4, where, "a call of " + withTypes);
         boolean isOfNumbers = called.getReturnType().toString().matches("int|long");
         expect(!name.startsWith("java.lang.Math.") || isOfNumbers, 3, where, "Math on doubles or floats");
+    }
+
+    private void rememberCall(ExecutableElement called) {
+        if (isOwn(called) && method != null) {
+            calls.computeIfAbsent(method, caller -> new LinkedHashSet<>()).add(called);
+        }
     }
 
     @Override
     public Void visitNewClass(NewClassTree tree, Void unused) {
         ExecutableElement made = (ExecutableElement) here();
-        String name = ((TypeElement) made.getEnclosingElement()).getQualifiedName().toString();
-        String simple = made.getEnclosingElement().getSimpleName().toString();
-        boolean isOwn = name.startsWith("OpenFloors");
-        if (isOwn && method != null) {
-            calls.computeIfAbsent(method, caller -> new LinkedHashSet<>()).add(made);
-        }
-        expect(isOwn || MADE.matcher(name).matches() || EXCEPTIONS.contains(simple), 4, tree, "a new " + name);
+        rememberCall(made);
+        boolean isAllowed = isOwn(made) || MADE.matcher(made.getEnclosingElement().toString()).matches();
+        expect(isAllowed, 4, tree, "a new " + made.getEnclosingElement());
         return super.visitNewClass(tree, unused);
     }
 
@@ -221,11 +254,12 @@ final class LanguageRules extends TreePathScanner<Void, Void> {
         expect(isPlain, 6, tree, "not a new exception of the list with a written text: " + tree);
         boolean inConstructor = method != null && method.getKind() == ElementKind.CONSTRUCTOR;
         expect(!inConstructor, 6, tree, "a throw in a constructor");
+        throwing.add(method);
         return super.visitThrow(tree, unused);
     }
 
     private static boolean isPlain(NewClassTree made) {
-        boolean isListed = EXCEPTIONS.contains(made.getIdentifier().toString());
+        boolean isListed = made.getIdentifier().toString().matches(EXCEPTION);
         boolean isWritten = made.getArguments().stream().allMatch(argument -> argument instanceof LiteralTree);
         return isListed && isWritten && made.getArguments().size() <= 1;
     }
@@ -233,13 +267,15 @@ final class LanguageRules extends TreePathScanner<Void, Void> {
     @Override
     public Void visitTry(TryTree tree, Void unused) {
         expect(tree.getFinallyBlock() == null && tree.getResources().isEmpty(), 6, tree, "finally or resources");
+        trying.add(method);
         return super.visitTry(tree, unused);
     }
 
     @Override
     public Void visitCatch(CatchTree tree, Void unused) {
-        String caught = tree.getParameter().getType().toString();
-        expect(EXCEPTIONS.contains(caught), 6, tree, "a catch of " + caught);
+        for (String caught : tree.getParameter().getType().toString().split(" \\| ")) {
+            expect(caught.matches(EXCEPTION), 6, tree, "a catch of " + caught);
+        }
         // Not the parameter: an exception is no type that rule 3 knows.
         return scan(tree.getBlock(), unused);
     }
@@ -270,19 +306,65 @@ final class LanguageRules extends TreePathScanner<Void, Void> {
 
     @Override
     public Void visitForLoop(ForLoopTree tree, Void unused) {
-        expect(tree.getCondition() != null, 9, tree, "a loop without an end");
+        checkEnd(tree, tree.getCondition());
         return super.visitForLoop(tree, unused);
     }
 
     @Override
+    public Void visitWhileLoop(WhileLoopTree tree, Void unused) {
+        checkEnd(tree, tree.getCondition());
+        return super.visitWhileLoop(tree, unused);
+    }
+
+    @Override
+    public Void visitDoWhileLoop(DoWhileLoopTree tree, Void unused) {
+        checkEnd(tree, tree.getCondition());
+        return super.visitDoWhileLoop(tree, unused);
+    }
+
+    /** Whether the end comes in time is for the reader; here there must be one. */
+    private void checkEnd(Tree loop, ExpressionTree condition) {
+        boolean neverFails = condition == null || condition.toString().matches("\\(*true\\)*");
+        expect(!neverFails || hasWayOut(loop), 9, loop, "a loop without an end");
+    }
+
+    private static boolean hasWayOut(Tree loop) {
+        boolean[] found = {false};
+        new TreeScanner<Void, Void>() {
+            @Override
+            public Void visitBreak(BreakTree tree, Void unused) {
+                found[0] = true;
+                return null;
+            }
+
+            @Override
+            public Void visitReturn(ReturnTree tree, Void unused) {
+                found[0] = true;
+                return null;
+            }
+
+            @Override
+            public Void visitThrow(ThrowTree tree, Void unused) {
+                found[0] = true;
+                return null;
+            }
+        }.scan(loop, null);
+        return found[0];
+    }
+
+    @Override
     public Void visitBinary(BinaryTree tree, Void unused) {
-        expect(tree.getKind() != Tree.Kind.PLUS || !isText(tree), 10, tree, "texts joined by +");
+        expect(tree.getKind() != Tree.Kind.PLUS || !LanguageTypes.isText(typeOf(tree)), 10, tree, "texts joined by +");
+        boolean isComparison = tree.getKind() == Tree.Kind.EQUAL_TO || tree.getKind() == Tree.Kind.NOT_EQUAL_TO;
+        boolean areObjects = LanguageTypes.isTextOrInteger(typeOf(tree.getLeftOperand()))
+                && LanguageTypes.isTextOrInteger(typeOf(tree.getRightOperand()));
+        expect(!isComparison || !areObjects, 6, tree, "== or != between texts or Integers");
         return super.visitBinary(tree, unused);
     }
 
     @Override
     public Void visitCompoundAssignment(CompoundAssignmentTree tree, Void unused) {
-        expect(!isText(tree.getVariable()), 10, tree, "texts joined by +=");
+        expect(!LanguageTypes.isText(typeOf(tree.getVariable())), 10, tree, "texts joined by +=");
         return super.visitCompoundAssignment(tree, unused);
     }
 }

@@ -142,18 +142,24 @@ final class Model {
         for (int person : seatOf.keySet()) {
             boolean good = came.contains(person);
             missed += good ? 0 : 1;
-            standings.set(person, good ? Math.min(10, standings.get(person) + 1) : Math.max(0, standings.get(person) - 1));
+            int judged = standings.get(person) + (good ? 1 : -1);
+            standings.set(person, Math.min(10, Math.max(0, judged)));
         }
-        cleaning += floors(open).mapToLong(floor -> 10 + 5 * came.stream().filter(p -> seatOf.get(p) == floor).count()).sum();
+        cleaning += floors(open).mapToLong(floor -> 10 + 5 * cameTo(floor)).sum();
         open = plan();
         in.clear();
         came.clear();
         seatOf.clear();
-        wanted.keySet().stream().sorted(Comparator.comparing(person -> -standings.get(person))).forEachOrdered(this::give);
+        wanted.keySet().stream().sorted(Comparator.comparing(person -> -standings.get(person)))
+                .forEachOrdered(this::give);
         wanted = new LinkedHashMap<>();
         noShows += missed;
         day++;
         return missed;
+    }
+
+    private long cameTo(int floor) {
+        return came.stream().filter(person -> seatOf.get(person) == floor).count();
     }
 
     private void give(int person) {
